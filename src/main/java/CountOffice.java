@@ -78,9 +78,9 @@ public final class CountOffice {
 
     public CountOffice() {
         tape = new byte[TAPE_BYTES];
-        reader = new Reader(tape);
-        rows = new Rows(new Book());
         spare = new Book();
+        reader = new Reader(tape, spare);
+        rows = new Rows(new Book());
         // One more than there may be: a TABLE too many is still read for its FAULTS.
         plans = new Plan[MAX_TABLES + 1];
         for (int k = 0; k < plans.length; k++) {
@@ -284,10 +284,6 @@ public final class CountOffice {
         return rows.today;
     }
 
-    private static boolean isWithin(int v, int low, int high) {
-        return v >= low && v <= high;
-    }
-
     // ---- figures
 
     private boolean hasTable(int table) {
@@ -416,10 +412,6 @@ public final class CountOffice {
         return !isLeftOut(cell, out) ? UNFIT : plan.hasBits(out) ? FINE : NUMBER;
     }
 
-    private static boolean isLeftOut(int cell, long out) {
-        return (out >>> cell & 1) != 0;
-    }
-
     public int wide(int table, long out) {
         latest = !hasTable(table) ? ABSENT : !hasGuarded(table) ? UNFIT
                 : plans[table].hasBits(out) ? FINE : NUMBER;
@@ -516,6 +508,18 @@ public final class CountOffice {
         return latest;
     }
 
+    private static boolean isWithin(int v, int low, int high) {
+        return v >= low && v <= high;
+    }
+
+    private static int valueIn(int[] values, int field) {
+        return field >= 0 && field < values.length ? values[field] : GAP;
+    }
+
+    private static boolean isLeftOut(int cell, long out) {
+        return (out >>> cell & 1) != 0;
+    }
+
     /** A TEST: ONES that must all hold. Without a ONE it holds always, as a TABLE without where wants it. */
     private static final class Test {
         final int[] left = new int[MAX_ONES];
@@ -547,25 +551,15 @@ public final class CountOffice {
 
         boolean holds(int[] values) {
             for (int k = 0; k < ones && k < MAX_ONES; k++) {
-                if (!oneHolds(k, values)) {
+                int a = valueIn(values, left[k]);
+                int b = right[k] >= 0 ? right[k] : valueIn(values, -1 - right[k]);
+                boolean one = sign[k] == '=' ? a == b : sign[k] == '<' ? a < b : a > b;
+                if (!one || a == GAP || b == GAP) {
                     return false;
                 }
             }
             return true;
         }
-
-        private boolean oneHolds(int k, int[] values) {
-            int a = valueIn(values, left[k]);
-            int b = right[k] >= 0 ? right[k] : valueIn(values, -1 - right[k]);
-            if (a == GAP || b == GAP) {
-                return false;
-            }
-            return sign[k] == '=' ? a == b : sign[k] == '<' ? a < b : a > b;
-        }
-    }
-
-    private static int valueIn(int[] values, int field) {
-        return field >= 0 && field < values.length ? values[field] : GAP;
     }
 
     /** A BOOK: its FIELDS and RULES. Without a FIELD there is no BOOK. */
@@ -638,10 +632,6 @@ public final class CountOffice {
                 }
             }
             return NOT;
-        }
-
-        boolean isBroken(int[] values) {
-            return ruleThatHolds(values) != NOT;
         }
 
         int allFields() {
@@ -764,6 +754,17 @@ public final class CountOffice {
         private static final int MAX_LETTERS = 8;
         private static final int MAX_DIGITS = 4;
 
+        // A WORD as a number: its letters, a byte each.
+        private static final long FIELD = 0x6669656c64L;
+        private static final long NEVER = 0x6e65766572L;
+        private static final long AND = 0x616e64L;
+        private static final long COUNT = 0x636f756e74L;
+        private static final long SUM = 0x73756dL;
+        private static final long BY = 0x6279L;
+        private static final long WHERE = 0x7768657265L;
+        private static final long TOP = 0x746f70L;
+        private static final long COST = 0x636f7374L;
+
         final byte[] text;
         int fault;
         int place;
@@ -771,12 +772,12 @@ public final class CountOffice {
         private int behind;
         private int kind;
         private int number;
-        // The letters of a WORD, five bits each.
         private long word;
         private Book book;
 
-        Reader(byte[] text) {
+        Reader(byte[] text, Book book) {
             this.text = text;
+            this.book = book;
         }
 
         boolean readBook(int n, Book into) {
@@ -800,7 +801,7 @@ public final class CountOffice {
             if (!readWhat(into) || !readBy(into)) {
                 return false;
             }
-            if (isWord("where")) {
+            if (isWord(WHERE)) {
                 step();
                 if (!readTest(into.filter)) {
                     return false;
@@ -823,11 +824,11 @@ public final class CountOffice {
         }
 
         private boolean readLine() {
-            if (isWord("field")) {
+            if (isWord(FIELD)) {
                 step();
                 return readField();
             }
-            if (!isWord("never")) {
+            if (!isWord(NEVER)) {
                 return fail(FORM);
             }
             if (book.rulesTold < 0 || book.rulesTold >= MAX_RULES) {
@@ -855,7 +856,7 @@ public final class CountOffice {
             }
             long name = word;
             step();
-            if (!readDigitBehind("top")) {
+            if (!readDigitBehind(TOP)) {
                 return false;
             }
             int top = number;
@@ -863,7 +864,7 @@ public final class CountOffice {
                 return fail(MANY);
             }
             step();
-            if (!readDigitBehind("cost")) {
+            if (!readDigitBehind(COST)) {
                 return false;
             }
             book.addField(name, top, number);
@@ -871,7 +872,7 @@ public final class CountOffice {
             return true;
         }
 
-        private boolean readDigitBehind(String title) {
+        private boolean readDigitBehind(long title) {
             if (!isWord(title)) {
                 return fail(FORM);
             }
@@ -884,7 +885,7 @@ public final class CountOffice {
 
         private boolean readTest(Test into) {
             for (int one = 0; one <= MAX_ONES && readOne(into); one++) {
-                if (!isWord("and")) {
+                if (!isWord(AND)) {
                     return true;
                 }
                 step();
@@ -934,11 +935,11 @@ public final class CountOffice {
         }
 
         private boolean readWhat(Plan into) {
-            if (isWord("count")) {
+            if (isWord(COUNT)) {
                 step();
                 return true;
             }
-            if (!isWord("sum")) {
+            if (!isWord(SUM)) {
                 return fail(FORM);
             }
             step();
@@ -951,7 +952,7 @@ public final class CountOffice {
         }
 
         private boolean readBy(Plan into) {
-            if (!isWord("by")) {
+            if (!isWord(BY)) {
                 return true;
             }
             step();
@@ -981,21 +982,13 @@ public final class CountOffice {
             return kind == SIGN && number == sign;
         }
 
-        private boolean isWord(String title) {
-            if (kind != WORD || behind - place != title.length()) {
-                return false;
-            }
-            for (int k = 0; k < title.length() && place + k < text.length; k++) {
-                if (text[place + k] != title.charAt(k)) {
-                    return false;
-                }
-            }
-            return true;
+        private boolean isWord(long title) {
+            return kind == WORD && word == title;
         }
 
         private boolean isName() {
-            return kind == WORD && !isWord("field") && !isWord("never") && !isWord("and") && !isWord("count")
-                    && !isWord("sum") && !isWord("by") && !isWord("where");
+            return kind == WORD && word != FIELD && word != NEVER && word != AND && word != COUNT && word != SUM
+                    && word != BY && word != WHERE;
         }
 
         /** Goes on to the next TOKEN. */
@@ -1004,39 +997,36 @@ public final class CountOffice {
             for (int k = behind; k < end && byteAt(k) == ' '; k++) {
                 place = k + 1;
             }
-            int sign = byteAt(place);
-            if (place >= end) {
-                behind = end;
-                kind = END;
-            } else if (isLetter(sign)) {
-                readLetters();
-            } else if (isDigit(sign)) {
-                readDigits();
-            } else {
-                behind = place + 1;
-                number = sign;
-                kind = sign == ';' || sign == ',' || sign == '=' || sign == '<' || sign == '>' ? SIGN : NO_TOKEN;
-            }
-        }
-
-        private void readLetters() {
-            word = 0;
             behind = place;
+            number = 0;
+            word = 0;
             for (int k = place; k < end && isLetter(byteAt(k)); k++) {
-                word = word << 5 | byteAt(k) - 'a' + 1;
+                word = word << 8 | byteAt(k);
                 behind = k + 1;
             }
-            kind = behind - place <= MAX_LETTERS ? WORD : NO_TOKEN;
-        }
-
-        private void readDigits() {
-            number = 0;
-            behind = place;
+            int letters = behind - place;
             for (int k = place; k < end && isDigit(byteAt(k)); k++) {
                 number = number * 10 + byteAt(k) - '0';
                 behind = k + 1;
             }
-            kind = behind - place <= MAX_DIGITS ? WHOLE : NO_TOKEN;
+            int digits = letters > 0 ? 0 : behind - place;
+            if (letters > 0) {
+                kind = letters <= MAX_LETTERS ? WORD : NO_TOKEN;
+            } else if (digits > 0) {
+                kind = digits <= MAX_DIGITS ? WHOLE : NO_TOKEN;
+            } else {
+                takeSign(byteAt(place));
+            }
+        }
+
+        private void takeSign(int sign) {
+            if (place >= end) {
+                kind = END;
+                return;
+            }
+            behind = place + 1;
+            number = sign;
+            kind = number == ';' || number == ',' || number == '=' || number == '<' || number == '>' ? SIGN : NO_TOKEN;
         }
 
         private int byteAt(int k) {
@@ -1374,14 +1364,19 @@ public final class CountOffice {
             if (!rows.isThere(other, rows.today)) {
                 return false;
             }
-            takeFrom(other, set);
-            return (rows.book.gapsOf(theirs) & withoutGaps) == 0 && !rows.book.isBroken(theirs)
-                    && !rows.book.isBroken(trial);
+            rows.load(other, rows.today, 0, theirs);
+            putTheirs(set);
+            return (rows.book.gapsOf(theirs) & withoutGaps) == 0 && rows.book.ruleThatHolds(theirs) == NOT
+                    && rows.book.ruleThatHolds(trial) == NOT;
         }
 
-        /** Makes the trial the ROW's own VALUES with another one's in a set. */
         private void takeFrom(int other, int set) {
             rows.load(other, rows.today, 0, theirs);
+            putTheirs(set);
+        }
+
+        /** Makes the trial the ROW's own VALUES with the other one's in a set. */
+        private void putTheirs(int set) {
             for (int f = 0; f < MAX_FIELDS; f++) {
                 trial[f] = (set >> f & 1) != 0 ? theirs[f] : own[f];
             }
@@ -1414,11 +1409,7 @@ public final class CountOffice {
                 return false;
             }
             rows.load(row, day, filling, values);
-            return !rows.book.isBroken(values);
-        }
-
-        boolean looksAtNow(int row) {
-            return looksAt(row, rows.today, 0);
+            return rows.book.ruleThatHolds(values) == NOT;
         }
 
         long sumOf(Plan plan, int cell, int day, int filling) {
@@ -1435,7 +1426,7 @@ public final class CountOffice {
         void countRows(Plan plan, int[] into) {
             Arrays.fill(into, 0);
             for (int row = 0; row < rows.total; row++) {
-                if (looksAtNow(row)) {
+                if (looksAt(row, rows.today, 0)) {
                     int cell = plan.cellOf(values);
                     if (cell >= 0 && cell < into.length) {
                         into[cell]++;
@@ -1447,7 +1438,7 @@ public final class CountOffice {
         int rowIn(Plan plan, int cell, int k) {
             int met = 0;
             for (int row = 0; row < rows.total; row++) {
-                if (looksAtNow(row) && plan.cellOf(values) == cell) {
+                if (looksAt(row, rows.today, 0) && plan.cellOf(values) == cell) {
                     if (met == k) {
                         return row;
                     }
@@ -1502,7 +1493,7 @@ public final class CountOffice {
             Arrays.fill(ours, 0);
             Rows rows = figures.rows;
             for (int row = 0; row < rows.total && row < MAX_ROWS; row++) {
-                int v = figures.looksAtNow(row) ? valueIn(figures.values, field) : GAP;
+                int v = figures.looksAt(row, rows.today, 0) ? valueIn(figures.values, field) : GAP;
                 if (v >= 0 && v < all.length) {
                     all[v] += rows.weights[row];
                     if (plan.cellOf(figures.values) == cell) {
@@ -1568,8 +1559,9 @@ public final class CountOffice {
             ownHolding = 0;
             likeRows = 0;
             likeHolding = 0;
-            for (int row = 0; row < figures.rows.total; row++) {
-                int other = figures.looksAtNow(row) ? valueIn(figures.values, field) : GAP;
+            Rows rows = figures.rows;
+            for (int row = 0; row < rows.total; row++) {
+                int other = figures.looksAt(row, rows.today, 0) ? valueIn(figures.values, field) : GAP;
                 if (other == GAP) {
                     continue;
                 }

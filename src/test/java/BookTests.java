@@ -9,6 +9,7 @@ public final class BookTests {
         book();
         bookBeginsAnew();
         table();
+        tableForgets();
         tableRoom();
         form();
         names();
@@ -84,6 +85,9 @@ public final class BookTests {
         CHECKS.due("many blanks", desk.book("   field   abcdefgh   top   9   cost   9   "), 1);
         CHECKS.due("only the first n bytes", feedAndBook(desk, A + ";", 20), 1);
         CHECKS.due("the rest is gone", x.count(10), 0);
+        CHECKS.due("n ends a WORD", feedAndBook(desk, A + ";never a=aa", 30), 1);
+        CHECKS.due("n ends a WHOLE", feedAndBook(desk, "field z top 1 cost 10", 20), 1);
+        CHECKS.due("NAMES of all letters", desk.book("field az top 1 cost 1; field za top 1 cost 1"), 2);
         CHECKS.due("SPACE of 20,000", desk.book("field a top 9 cost 1; field b top 9 cost 1; field c top 9 cost 1;"
                 + "field d top 9 cost 1; field e top 1 cost 1"), 5);
         twelveRules(desk);
@@ -172,6 +176,25 @@ public final class BookTests {
         CHECKS.dueWith(bare.x, "no BOOK", bare.x.table(5), -1, 1);
         CHECKS.due("THE TAPE stays", bare.x.count(10), 20);
         CHECKS.dueWith(bare.x, "no BOOK comes ahead of a number", bare.x.table(-5), -1, 1);
+    }
+
+    private static void tableForgets() {
+        CHECKS.promise(4, "table: nothing stays of a text read ahead");
+        Desk desk = Desk.with("field a top 2 cost 1; field b top 2 cost 9");
+        CountOffice x = desk.x;
+        desk.row(1, 2);
+        CHECKS.due("a FAULT at the end", desk.table("sum b by b, a where a = 2;"), -1);
+        CHECKS.due("count", desk.table("count"), 0);
+        CHECKS.due("without where, by, sum", x.figure(0, 0, 0, 0, 0), 1);
+        CHECKS.dueWith(x, "without by", x.figure(0, 1, 0, 0, 0), Checks.NO_FIGURE, 1);
+        desk.table("sum b by b where a = 2");
+        desk.book("field a top 2 cost 1; field b top 2 cost 9; never a = 0 and b = 0");
+        desk.book("field a top 2 cost 1; field b top 2 cost 9; never b = 1");
+        desk.row(0, 0);
+        CHECKS.due("another BOOK's RULE", x.of(0, 1), 0);
+        desk.table("count");
+        desk.table("count");
+        CHECKS.due("another BOOK's TABLES", x.figure(1, 0, 0, 0, 0), 1);
     }
 
     private static void tableRoom() {

@@ -5,6 +5,7 @@ public final class FigureTests {
 
     public static void main(String[] args) {
         figure();
+        figureOfTests();
         figureIsRefused();
         figureOfDays();
         span();
@@ -13,6 +14,7 @@ public final class FigureTests {
         agreed();
         agreedAddsFractions();
         group();
+        groupOfTheLastValue();
         small();
         smallIsRefused();
         CHECKS.close();
@@ -61,6 +63,39 @@ public final class FigureTests {
             most.x.weight(k, 99);
         }
         CHECKS.due("the most", most.x.figure(0, 0, 0, 0, 0), 60 * 99 * 9);
+    }
+
+    private static void holds(String test, int... due) {
+        Desk desk = Desk.with("field a top 2 cost 1; field b top 2 cost 1");
+        desk.table("count by a, b where " + test);
+        for (int k = 0; k < 9; k++) {
+            desk.row(k / 3, k % 3);
+        }
+        desk.row(-1, 1);
+        desk.row(1, -1);
+        desk.row(-1, -1);
+        for (int k = 0; k < 9; k++) {
+            CHECKS.due(test + " with " + k / 3 + " and " + k % 3, desk.x.figure(0, k / 3, k % 3, 0, 0), due[k]);
+        }
+        Desk rule = Desk.with("field a top 2 cost 1; field b top 2 cost 1; never " + test);
+        for (int k = 0; k < 9; k++) {
+            rule.row(k / 3, k % 3);
+            CHECKS.due("never " + test + " with " + k / 3 + " and " + k % 3, rule.x.of(k, 1), due[k]);
+        }
+    }
+
+    private static void figureOfTests() {
+        CHECKS.promise(17, "figure: TESTS");
+        holds("a = 1", 0, 0, 0, 1, 1, 1, 0, 0, 0);
+        holds("a < 1", 1, 1, 1, 0, 0, 0, 0, 0, 0);
+        holds("a > 1", 0, 0, 0, 0, 0, 0, 1, 1, 1);
+        holds("a < 99", 1, 1, 1, 1, 1, 1, 1, 1, 1);
+        holds("a > 0000", 0, 0, 0, 1, 1, 1, 1, 1, 1);
+        holds("a = b", 1, 0, 0, 0, 1, 0, 0, 0, 1);
+        holds("a < b", 0, 1, 1, 0, 0, 1, 0, 0, 0);
+        holds("a > b", 0, 0, 0, 1, 0, 0, 1, 1, 0);
+        holds("b > a and b < 2", 0, 1, 0, 0, 0, 0, 0, 0, 0);
+        holds("a = a", 1, 1, 1, 1, 1, 1, 1, 1, 1);
     }
 
     private static void figureIsRefused() {
@@ -300,6 +335,26 @@ public final class FigureTests {
         CHECKS.dueWith(x, "group(0, 0, 10)", x.group(0, 0, 10), false, 2);
         CHECKS.dueWith(x, "group(0, 0, -1)", x.group(0, 0, -1), false, 2);
         CHECKS.dueWith(x, "group(0, 4, 10)", x.group(0, 4, 10), false, 1);
+    }
+
+    private static void groupOfTheLastValue() {
+        CHECKS.promise(22, "group of the first and the last VALUE");
+        Desk desk = Desk.with("field a top 9 cost 1; field b top 1 cost 1; field c top 1 cost 1; field d top 1 cost 1;"
+                + "field e top 1 cost 1; field f top 9 cost 1");
+        CountOffice x = desk.x;
+        desk.table("count where b = 1");
+        desk.row(0, 1, 0, 0, 0, 9);
+        desk.row(1, 0, 0, 0, 0, 8);
+        desk.row(9, 0, 0, 0, 0, 0);
+        CHECKS.due("group(5, 9, 7)", x.group(5, 9, 7), true);
+        CHECKS.due("without the last", x.small(0, 5, 8, 2), 0);
+        CHECKS.due("group(5, 8, 7)", x.group(5, 8, 7), true);
+        CHECKS.due("with the last", x.small(0, 5, 8, 2), 1000);
+        CHECKS.due("of the first FIELD", x.small(0, 0, 9, 2), 500);
+        CHECKS.due("group(0, 0, 1)", x.group(0, 0, 1), true);
+        CHECKS.due("without the first", x.small(0, 0, 9, 2), 0);
+        CHECKS.due("group(0, 9, 1)", x.group(0, 9, 1), true);
+        CHECKS.due("with the first", x.small(0, 0, 9, 2), 1000);
     }
 
     private static void small() {

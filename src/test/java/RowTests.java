@@ -326,6 +326,13 @@ public final class RowTests {
         CHECKS.due("the first FIELD counts most", x.value(0, 0, 0, 0), 0);
         CHECKS.due("then the second", x.value(0, 1, 0, 0), 1);
         CHECKS.due("the other stays", x.value(0, 2, 0, 0), 2);
+        Desk back = Desk.with("field a top 3 cost 1; field b top 3 cost 1; field c top 3 cost 1; field d top 1 cost 9;"
+                + "never c > b and d = 0; never b > a and d = 0; never a < 1; never b < 1; never c < 2; never a = 2 and b = 2");
+        back.row(0, 0, 0, 0);
+        CHECKS.due("three FIELDS", back.x.mend(0), 7);
+        CHECKS.due("a: 1 and 2 lead nowhere", back.x.value(0, 0, 0, 0), 3);
+        CHECKS.due("b: 1 leads nowhere", back.x.value(0, 1, 0, 0), 2);
+        CHECKS.due("c", back.x.value(0, 2, 0, 0), 2);
     }
 
     private static void fill() {
