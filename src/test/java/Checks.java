@@ -17,6 +17,11 @@ final class Checks {
         promise = "promise " + number + " (" + name + ")";
     }
 
+    /** The words of the document by which the next answers are due, and where they stand in it. */
+    void sentence(String place, String words) {
+        promise = place + ", \"" + words + "\"";
+    }
+
     void due(String call, long got, long want) {
         made++;
         if (got != want) {
