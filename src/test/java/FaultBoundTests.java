@@ -301,6 +301,16 @@ public final class FaultBoundTests {
         Twins.alike(CHECKS, "another BOOK", begun(Lands.busy()).x, begun(withGiver()).x);
         Twins.alike(CHECKS, "another BOOK, with ROWS and TABLES", atWork(begun(Lands.busy())).x,
                 atWork(begun(withGiver())).x);
+        CountOffice x = atWork(begun(Lands.busy())).x;
+        CHECKS.due("GROUPS are 0: LIKE", x.small(1, 0, 0, 2), 500);
+        CHECKS.due("M 10: 3 by 13", x.small(1, 0, 0, 3), 230);
+        CHECKS.due("MIN 3: CELLS of 1 and 2 are SHY", x.shy(0), 4);
+        CHECKS.due("WIDTH 3: 0 to 2", x.wide(0, 511), 0);
+        CHECKS.dueWith(x, "no known sums", x.agreed(0, 0, 0, true), Checks.NO_FIGURE, 5);
+        x.known(0, 2, 5);
+        CHECKS.due("the sums told ahead are 0", x.agreed(1, 0, 0, false), 0);
+        x.set(3, 1);
+        CHECKS.dueWith(x, "no LOTS", x.noise(0, 0, 0), Checks.NO_FIGURE, 5);
     }
 
     /** Another BOOK leaves the GIVER; this office has that of the busy one, and nothing else. */
@@ -319,11 +329,12 @@ public final class FaultBoundTests {
 
     private static Desk atWork(Desk desk) {
         desk.table(Lands.CROSS);
-        desk.table("count where b = 1");
+        desk.table("count where b < 2");
         desk.row(0, 0, 0);
         desk.row(0, 1, 0);
         desk.row(0, 1, -1);
         desk.row(1, 0, 1);
+        desk.row(1, 2, 1);
         desk.row(2, 2, -1);
         return desk;
     }

@@ -36,6 +36,7 @@ public final class FigureBoundTests {
         groups();
         groupIsRefused();
         groupAtFirst();
+        groupsOfFields();
         own();
         ownRows();
         like();
@@ -303,6 +304,7 @@ public final class FigureBoundTests {
             }
         }
         CHECKS.due("by FILLING 0", fillable(2).x.far(0, 0, 0, 0, 1), 20);
+        CHECKS.due("by FILLING 0, the other way round", fillable(2).x.far(0, 0, 0, 1, 0), -20);
     }
 
     private static void farIsRefused() {
@@ -542,6 +544,35 @@ public final class FigureBoundTests {
         CHECKS.due("3 has no ROWS and is with 1", x.small(0, 0, 3, 2), 666);
     }
 
+    private static void groupsOfFields() {
+        CHECKS.sentence("Promise 22", "GROUP of a VALUE of a FIELD: of that one alone");
+        Desk desk = Desk.with("field a top 9 cost 1; field b top 9 cost 1; field c top 9 cost 1");
+        CountOffice x = desk.x;
+        desk.table("count where c > 4");
+        desk.row(9, 9, 9);
+        desk.row(0, 0, 0);
+        desk.row(1, 1, 1);
+        for (int f = 0; f < 3; f++) {
+            CHECKS.due("LIKE of 0", x.small(0, f, 0, 2), 500);
+        }
+        CHECKS.due("group(1, 9, 4)", x.group(1, 9, 4), true);
+        int[] likeOf0 = {500, 0, 500};
+        int[] likeOf9 = {0, 0, 0};
+        int[] likeOf1 = {500, 0, 500};
+        for (int f = 0; f < 3; f++) {
+            CHECKS.due("LIKE of 0 in FIELD " + f, x.small(0, f, 0, 2), likeOf0[f]);
+            CHECKS.due("LIKE of 9 in FIELD " + f, x.small(0, f, 9, 2), likeOf9[f]);
+            CHECKS.due("LIKE of 1 in FIELD " + f, x.small(0, f, 1, 2), likeOf1[f]);
+        }
+        CHECKS.due("group(2, 0, 4)", x.group(2, 0, 4), true);
+        CHECKS.due("that of the FIELD ahead stays", x.small(0, 1, 0, 2), 0);
+        CHECKS.due("alone", x.small(0, 2, 0, 2), 0);
+        CHECKS.due("without it", x.small(0, 2, 1, 2), 1000);
+        desk.row(9, -1, 9);
+        CHECKS.due("a GAP is of no GROUP", x.small(0, 1, 0, 2), 0);
+        CHECKS.due("a GAP is of no GROUP, with another one", x.small(0, 1, 9, 2), 0);
+    }
+
     private static void own() {
         CHECKS.sentence("Term III", "OWN: how many of a thousand hold its where (0 without ROWS; all hold without where). All downwards");
         CountOffice x = places().x;
@@ -572,7 +603,9 @@ public final class FigureBoundTests {
         CHECKS.due("not one WITHDRAWN TODAY: 2 of 3", x.small(0, 0, 0, 1), 666);
         desk.row(0, -1);
         CHECKS.due("a GAP in where: 2 of 4", x.small(0, 0, 0, 1), 500);
-        x.fill(10, 1);
+        CHECKS.due("three give", x.fill(10, 2), 3);
+        CHECKS.due("by FILLING 0", x.value(10, 1, 1, 0), 1);
+        CHECKS.due("by FILLING 1", x.value(10, 1, 1, 1), 0);
         CHECKS.due("FILLED by FILLING 0 with 1: 3 of 4", x.small(0, 0, 0, 1), 750);
     }
 

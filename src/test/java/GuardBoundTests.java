@@ -41,6 +41,7 @@ public final class GuardBoundTests {
         lineOfLots();
         lotIsRefused();
         noiseCosts();
+        noiseByFilling0();
         noiseIsNotBelowZero();
         noiseToldAgain();
         noiseOfTheCell();
@@ -133,6 +134,7 @@ public final class GuardBoundTests {
             CHECKS.dueWith(x, "wide, " + cells, x.wide(0, 1L << last), 0, 0);
             CHECKS.dueWith(x, "a bit too much, " + cells, x.wide(0, 1L << last + 1), -1, 2);
         }
+        edgesOfSixty();
         int[][] many = {{9, 7}, {7, 9}, {8, 8}, {10, 7}, {10, 10}};
         for (int[] of : many) {
             Twins twins = new Twins(CHECKS, () -> cross(of[0], of[1]));
@@ -142,6 +144,24 @@ public final class GuardBoundTests {
             twins.none("wide(0, 1), " + cells, x -> x.wide(0, 1), 5);
             twins.refused("least(0), " + cells, x -> x.least(0), -3, 5);
         }
+    }
+
+    private static void edgesOfSixty() {
+        Desk desk = cross(10, 6);
+        desk.rows(3, 0, 0);
+        desk.rows(2, 9, 0);
+        desk.rows(4, 0, 5);
+        CountOffice x = desk.x;
+        long corners = 1 | 1L << 5 | 1L << 54 | 1L << 59;
+        CHECKS.due("LOW of the first", x.edge(0, 0, 0, corners, false), 2);
+        CHECKS.due("HIGH of the first", x.edge(0, 0, 0, corners, true), 5);
+        CHECKS.due("LOW of the last", x.edge(0, 9, 5, corners, false), 0);
+        CHECKS.due("HIGH of the last", x.edge(0, 9, 5, corners, true), 3);
+        CHECKS.due("the last is 0 to 3", x.wide(0, corners | 1L << 30), 1);
+        // By lines 0, 1 .. 8 and 9 and columns 0, 1 .. 4 and 5, round a circle of CELLS without ROWS.
+        long all = (1L << 60) - 1;
+        CHECKS.due("HIGH of all", x.edge(0, 4, 3, all, true), 0);
+        CHECKS.due("HIGH of the last of all", x.edge(0, 9, 5, all, true), 3);
     }
 
     private static void guardedRows() {
@@ -169,6 +189,14 @@ public final class GuardBoundTests {
         CHECKS.due("a GAP is in no CELL", x.edge(0, 0, 0, 1, true), 2);
         x.fill(5, 0);
         CHECKS.due("FILLED by FILLING 0", x.edge(0, 0, 0, 1, true), 3);
+        Desk two = Desk.with("field r top 1 cost 1; field c top 1 cost 1");
+        two.table("count by r, c");
+        two.row(0, -1);
+        two.row(0, 0);
+        two.row(0, 1);
+        CHECKS.due("fill(0, 1)", two.x.fill(0, 1), 2);
+        CHECKS.due("by FILLING 0 it isn't there", two.x.edge(0, 0, 0, 1, true), 1);
+        CHECKS.due("but there", two.x.edge(0, 0, 1, 2, true), 2);
     }
 
     private static void shy() {
@@ -410,6 +438,15 @@ public final class GuardBoundTests {
             y.set(0, 2);
             CHECKS.due("by 3, 3 and 4 of the last column", y.least(0), 1 | 4 | 8 | 32);
         }
+        for (int first = 1; first <= 9; first++) {
+            CountOffice x = squares(new int[][] {{first, 3, 3}, {3, 6, 3}, {3, 3, 1}});
+            x.set(0, 2);
+            x.set(1, 1);
+            int corners = 1 | 4 | 64 | 256;
+            int other = 8 | 32 | 64 | 256;
+            // As many ROWS as the other circle's ten with a first CELL of 3; the corners are the lesser number.
+            CHECKS.due("by a first CELL of " + first, x.least(0), first <= 3 ? corners : other);
+        }
         for (int v = 5; v <= 9; v++) {
             CountOffice x = squares(new int[][] {{1, 2, 20}, {20, 2, 2}, {2, v, 2}});
             x.set(0, 2);
@@ -427,6 +464,10 @@ public final class GuardBoundTests {
         x.set(1, 2);
         CHECKS.due("eleven ROWS in six CELLS are WIDE, too", x.wide(0, 1 | 2 | 16 | 32 | 64 | 256), 1);
         CHECKS.due("eleven ROWS in four CELLS", x.least(0), 1 | 2 | 64 | 128);
+        CountOffice greater = squares(new int[][] {{0, 3, 20}, {20, 2, 3}, {3, 6, 1}});
+        greater.set(0, 2);
+        CHECKS.due("twelve ROWS in six CELLS are WIDE, too", greater.wide(0, 371), 1);
+        CHECKS.due("twelve ROWS in four CELLS, though a greater number as bits", greater.least(0), 432);
         CountOffice zeros = squares(new int[][] {{1, 2, 0}, {2, 5, 0}, {0, 0, 0}});
         zeros.set(0, 2);
         CHECKS.due("CELLS without ROWS are not left out for nothing", zeros.least(0), 1 | 2 | 8 | 16);
@@ -584,7 +625,7 @@ public final class GuardBoundTests {
         full.none("2 comes ahead of 3", x -> x.lot(10), 2);
         CountOffice x = withLots(100).x;
         x.set(3, 1000);
-        for (int k = 0; k < 150; k++) {
+        for (int k = 0; k < 120; k++) {
             x.weight(0, 20 + k % 2);
             CHECKS.due("the first of the line, " + k, x.noise(0, 0, 0), 20 + k % 2 + k % 10);
             CHECKS.due("behind the line, " + k, x.lot(k % 10), 100);
@@ -630,6 +671,31 @@ public final class GuardBoundTests {
         CHECKS.dueWith(last, "the last LOT", last.noise(0, 0, 0), 8, 0);
         CHECKS.dueWith(last, "no LOT left", last.noise(0, 0, 1), NO, 5);
         CHECKS.due("BUDGET", last.count(9), 999);
+    }
+
+    private static void noiseByFilling0() {
+        CHECKS.sentence("Term IV", "FIGURE (TODAY, FILLING 0)");
+        for (int lot = 0; lot < 3; lot++) {
+            Desk desk = Desk.with("field a top 4 cost 1; field b top 1 cost 1");
+            desk.table("sum a");
+            desk.row(-1, 0);
+            desk.row(1, 0);
+            desk.row(2, 0);
+            desk.row(4, 0);
+            desk.x.fill(0, lot);
+            desk.x.set(3, 1);
+            desk.x.lot(9);
+            CHECKS.due("7, what it has by FILLING 0, and 9", desk.x.noise(0, 0, 0), 16 + (1 << lot));
+        }
+        Desk past = Desk.with("field a top 4 cost 1");
+        past.table("sum a");
+        past.row(3);
+        past.x.pass(1);
+        past.row(1);
+        past.x.withdraw(0);
+        past.x.set(3, 1);
+        past.x.lot(9);
+        CHECKS.due("TODAY", past.x.noise(0, 0, 0), 10);
     }
 
     private static void noiseIsNotBelowZero() {
@@ -733,6 +799,14 @@ public final class GuardBoundTests {
         desk.x.fill(3, 0);
         CHECKS.dueLed(desk.x, 1, 1, 0, 1, 3);
         CHECKS.dueNotLed(desk.x, 1, 1, 0, 3);
+        Desk two = Desk.with("field a top 1 cost 1; field b top 1 cost 1");
+        two.table("count by a");
+        two.row(-1, 0);
+        two.row(0, 0);
+        two.row(1, 0);
+        two.x.fill(0, 1);
+        CHECKS.dueLed(two.x, 0, 1, 0, 0, 0);
+        CHECKS.dueLed(two.x, 0, 0, 0, 0, 1);
         Desk full = Desk.with("field a top 1 cost 1");
         full.table("count");
         full.rows(60, 1);

@@ -39,6 +39,7 @@ public final class RowBoundTests {
         giverFits();
         giverIsLike();
         leastValues();
+        leastValuesGoBack();
         giver();
         lots();
         lotsGoRound();
@@ -539,10 +540,14 @@ public final class RowBoundTests {
         gives("a GAP is like a GAP", mended(NEAR, gap, new int[] {2, 0, 1}, new int[] {3, -1, 1}), 2, 3);
         gives("a GAP isn't like a VALUE", mended(NEAR, gap, new int[] {2, 0, 1}, new int[] {3, -1, 2}), 1, 2);
         gives("nor a VALUE like a GAP", mended(NEAR, row, new int[] {2, -1, 1}, new int[] {3, 1, 1}), 2, 3);
-        Desk filled = mended(NEAR, new int[] {0, 1, 1}, new int[] {2, -1, 1}, new int[] {1, 0, 1}, new int[] {3, 0, 0});
-        filled.x.fill(1, 0);
-        filled.row(3, 0, 1);
-        gives("a FILLED one by FILLING 0", filled, 1, 2);
+        for (int lot = 0; lot < 2; lot++) {
+            // The FILLED ROW 2 has 3 by FILLING 0 and 1, as the ROW 0 has, by FILLING 1; or the other way round.
+            Desk filled = mended(NEAR, row, new int[] {3, 1, 2}, new int[] {2, -1, 1}, new int[] {2, 3, 1}, new int[] {2, 1, 1});
+            CHECKS.due("fill(2, " + lot + ")", filled.x.fill(2, lot), 2);
+            filled.x.withdraw(3);
+            filled.x.withdraw(4);
+            gives("a FILLED one by FILLING 0", filled, lot == 0 ? 1 : 2, lot == 0 ? 3 : 2);
+        }
     }
 
     private static void leastValues() {
@@ -562,6 +567,29 @@ public final class RowBoundTests {
         Desk zero = mended("field a top 9 cost 1; never a > 0", new int[] {9});
         CHECKS.due("mend(0)", zero.x.mend(0), 1);
         CHECKS.due("the least is 0", zero.x.value(0, 0, 0, 0), 0);
+    }
+
+    private static void leastValuesGoBack() {
+        CHECKS.sentence("Term II", "the least VALUES that do, the first FIELD counting most: those that lead nowhere are left");
+        Desk desk = mended("field a top 3 cost 1; field b top 3 cost 1; field c top 3 cost 1; never a < 1; never b < 1;"
+                + "never c < 2; never c > b; never b > a; never a = 2 and b = 2", new int[] {0, 0, 0});
+        CHECKS.due("all FIELDS", desk.x.mend(0), 7);
+        int[] due = {3, 2, 2};
+        for (int f = 0; f < 3; f++) {
+            CHECKS.due("FIELD " + f, desk.x.value(0, f, 0, 0), due[f]);
+        }
+        Desk last = mended("field a top 2 cost 1; field b top 2 cost 1; never a < 2 and b < 9; never a = 2 and b < 2",
+                new int[] {0, 0});
+        CHECKS.due("both", last.x.mend(0), 3);
+        CHECKS.due("a", last.x.value(0, 0, 0, 0), 2);
+        CHECKS.due("b", last.x.value(0, 1, 0, 0), 2);
+        Desk anew = mended("field a top 2 cost 1; field b top 2 cost 1; field c top 2 cost 1; never a = 0;"
+                + "never b = 0 and c < 9; never a = 1 and b > 0 and c < 2; never c = 2 and a = 1; never c = 0",
+                new int[] {0, 0, 0});
+        CHECKS.due("all FIELDS", anew.x.mend(0), 7);
+        CHECKS.due("a: 1 leads nowhere", anew.x.value(0, 0, 0, 0), 2);
+        CHECKS.due("b begins anew", anew.x.value(0, 1, 0, 0), 1);
+        CHECKS.due("c begins anew", anew.x.value(0, 2, 0, 0), 1);
     }
 
     private static void giver() {

@@ -29,6 +29,7 @@ public final class TextBoundTests {
         twelveRules();
         twelveOnes();
         twelveOnesOfEachTest();
+        textsStandAlone();
         space();
         tableText();
         tableOrder();
@@ -398,10 +399,33 @@ public final class TextBoundTests {
         taken(A + ";" + ones + ";" + ones + ";" + ones + ";" + ones, 1);
         Desk desk = Desk.with(A);
         String where = "count where a=1" + " and a=1".repeat(11);
-        CHECKS.due("a TABLE", desk.table(where), 0);
-        CHECKS.due("another one", desk.table(where), 1);
-        CHECKS.due("another BOOK", desk.book(A + ";" + ones), 1);
-        CHECKS.due("and another one", desk.book(A + ";" + ones), 1);
+        for (int round = 0; round < 4; round++) {
+            CHECKS.due("a TABLE", desk.table(where), 0);
+            CHECKS.due("another one", desk.table(where), 1);
+            CHECKS.due("one too much", desk.table(where + " and a=1"), -1);
+            CHECKS.due("and another one", desk.table(where), 2);
+            CHECKS.due("another BOOK", desk.book(A + ";" + ones), 1);
+            CHECKS.due("one too much", desk.book(A + ";" + ones + " and a=1"), -1);
+        }
+    }
+
+    private static void textsStandAlone() {
+        CHECKS.sentence("Term I", "THE TEXT of a BOOK; of a TABLE: what another text told is of no matter");
+        Desk desk = Desk.with("field a top 9 cost 9;field b top 9 cost 9" + ";never a=1".repeat(12));
+        for (int round = 0; round < 4; round++) {
+            CHECKS.due("12 RULES", desk.book(A + ";" + B + ";never a=1".repeat(12)), 2);
+            CHECKS.due("too many", desk.book(A + ";never a=0".repeat(13)), -1);
+            CHECKS.due("RULES", desk.x.count(1), 12);
+            CHECKS.due("FIELDS", desk.x.count(0), 2);
+            CHECKS.due("a RULE", desk.book(A + ";never a=1"), 1);
+            CHECKS.due("RULES", desk.x.count(1), 1);
+            desk.row(0);
+            CHECKS.due("of(0, 1)", desk.x.of(0, 1), 0);
+            CHECKS.due("a FAULT at the end", desk.table("sum a by a where a=1;"), -1);
+            CHECKS.due("count", desk.table("count"), 0);
+            CHECKS.due("figure(0, 0, 0, 0, 0)", desk.x.figure(0, 0, 0, 0, 0), 1);
+            CHECKS.dueWith(desk.x, "without by", desk.x.figure(0, 1, 0, 0, 0), Checks.NO_FIGURE, 1);
+        }
     }
 
     private static String tops(int... tops) {
