@@ -1299,7 +1299,7 @@ public final class CountOffice {
             Arrays.fill(ripeAt, NONE);
             int size = 0;
             for (int f = 0; f < MAX_FIELDS; f++) {
-                if ((set >> f & 1) != 0) {
+                if ((set >> f & 1) != 0 && size < members.length) {
                     members[size] = f;
                     trial[f] = GAP;
                     for (int k = 0; k < MAX_RULES; k++) {
@@ -1694,25 +1694,26 @@ public final class CountOffice {
             if (cell < 0 || cell >= MAX_CELLS || columns < 1) {
                 return NONE;
             }
+            int start = cell / columns;
+            int goal = lines + cell % columns;
             System.arraycopy(counts, 0, moved, 0, MAX_CELLS);
             for (int turn = 0; turn < FAR_ABOVE && (high || moved[cell] > 0); turn++) {
-                if (!findCircle(cell, out, high)) {
+                if (!findCircle(start, goal, out, high)) {
                     break;
                 }
-                moveRound(cell, high);
+                moveRound(start, goal, high);
             }
             return moved[cell];
         }
 
         // Lines and columns are nodes, CELLS left out the ways between them: with each line and column that a
         // circle goes through, one of its CELLS gains what another one loses.
-        private boolean findCircle(int cell, long out, boolean high) {
-            Arrays.fill(from, NONE);
-            int start = cell / columns;
-            int goal = lines + cell % columns;
+        private boolean findCircle(int start, int goal, long out, boolean high) {
             if (!isNode(start) || !isNode(goal)) {
                 return false;
             }
+            int cell = cellBetween(start, goal);
+            Arrays.fill(from, NONE);
             from[start] = start;
             queue[0] = start;
             int reached = 1;
@@ -1749,10 +1750,9 @@ public final class CountOffice {
             return way >= 0 && way < MAX_CELLS ? moved[way] : 0;
         }
 
-        private void moveRound(int cell, boolean high) {
+        private void moveRound(int start, int goal, boolean high) {
+            int cell = cellBetween(start, goal);
             int amount = high ? MAX_ROWS : countAt(cell);
-            int goal = lines + cell % columns;
-            int start = cell / columns;
             for (int k = 0, node = goal; k < NODES && node != start && isNode(node); k++) {
                 int before = from[node];
                 if (loses(before, high)) {

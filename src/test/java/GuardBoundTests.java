@@ -406,7 +406,7 @@ public final class GuardBoundTests {
         BARE.none("wide(0, 0) without a TABLE", x -> x.wide(0, 0), 1);
         UNTOLD.none("wide(0, 0) without a BOOK", x -> x.wide(0, 0), 1);
         Desk desk = Lands.busy();
-        CHECKS.dueWith(desk.x, "wide(0, 511)", desk.x.wide(0, 511), 0, 0);
+        CHECKS.dueWith(desk.x, "wide(0, 511)", desk.x.wide(0, 511), 1, 0);
         CHECKS.dueWith(desk.x, "wide(0, 0)", desk.x.wide(0, 0), 0, 0);
     }
 
@@ -725,6 +725,9 @@ public final class GuardBoundTests {
         CHECKS.due("told again at last", x.noise(0, 0, 0), 7);
         x.weight(0, 5);
         CHECKS.dueWith(x, "another FIGURE needs a LOT", x.noise(0, 0, 0), NO, 5);
+        x.weight(0, 6);
+        CHECKS.dueWith(x, "what is refused tells nothing: 6 and 1 still", x.noise(0, 0, 0), 7, 0);
+        x.weight(0, 5);
         x.lot(2);
         CHECKS.due("what was told of it ahead isn't told at last: 5 and 2", x.noise(0, 0, 0), 7);
         CHECKS.due("LOTS", x.count(8), 0);

@@ -36,8 +36,8 @@ final class Lands {
         x.known(0, 0, 30);
         x.known(0, 1, 50);
         x.group(0, 1, 2);
-        x.set(0, 4);
-        x.set(1, 2);
+        x.set(0, 2);
+        x.set(1, 1);
         x.set(2, 20);
         x.lot(3);
         x.lot(-2);

@@ -81,7 +81,7 @@ final class Probe {
             tell("figure" + of + " by FILLING 1", x.figure(t, 1, 1, today, 1));
             tell("span" + of, x.span(t, 0, 0, true));
             tell("shy" + of, x.shy(t));
-            tell("wide" + of, x.wide(t, 15));
+            tell("wide" + of, x.wide(t, 511));
             tell("least" + of, x.least(t));
             tell("edge" + of, x.edge(t, 0, 0, 27, true));
             tell("differing" + of, x.differing(0, t));
@@ -127,7 +127,8 @@ final class Probe {
         tell("withdraw(0) again", x.withdraw(0));
         tell("known(0, 0, 7)", x.known(0, 0, 7));
         tell("group(0, 0, 1)", x.group(0, 0, 1));
-        tell("set(0, 2)", x.set(0, 2));
+        tell("set(0, 4)", x.set(0, 4));
+        tell("shy(0) with MIN 4", x.shy(0));
         tell("pass(1)", x.pass(1));
         rows();
         agreement();
