@@ -21,17 +21,8 @@ public final class GuardTests {
         CHECKS.close();
     }
 
-    /** A TABLE count by r, c with so many ROWS in its CELLS. */
     private static Desk squares(int[][] counts) {
-        Desk desk = Desk.with("field r top " + (counts.length - 1) + " cost 1; field c top " + (counts[0].length - 1)
-                + " cost 1");
-        desk.table("count by r, c");
-        for (int i = 0; i < counts.length; i++) {
-            for (int j = 0; j < counts[i].length; j++) {
-                desk.rows(counts[i][j], i, j);
-            }
-        }
-        return desk;
+        return Lands.squares(counts);
     }
 
     private static void set() {
