@@ -21,6 +21,7 @@ public final class GuardBoundTests {
         bitsThatThereArent();
         lowAndHigh();
         lowAndHighOfCircles();
+        allLeftOut();
         edgeIsRefused();
         edgeOrder();
         wideHoldsAllShy();
@@ -162,6 +163,32 @@ public final class GuardBoundTests {
         long all = (1L << 60) - 1;
         CHECKS.due("HIGH of all", x.edge(0, 4, 3, all, true), 0);
         CHECKS.due("HIGH of the last of all", x.edge(0, 9, 5, all, true), 3);
+    }
+
+    private static void allLeftOut() {
+        CHECKS.sentence("Term IV", "the least and the most that it could be: all CELLS left out, the sums of line and column alone");
+        int[][] sizes = {{10, 6}, {6, 10}, {7, 8}, {3, 4}, {2, 10}};
+        for (int[] of : sizes) {
+            int[] inLine = new int[of[0]];
+            int[] inColumn = new int[of[1]];
+            Desk desk = Desk.with("field a top " + (of[0] - 1) + " cost 1; field b top " + (of[1] - 1) + " cost 1");
+            desk.table("count by a, b");
+            for (int k = 0; k < 60; k++) {
+                int i = k * k % 17 % of[0];
+                int j = (k * 5 + k * k % 7) % of[1];
+                desk.row(i, j);
+                inLine[i]++;
+                inColumn[j]++;
+            }
+            long all = (1L << of[0] * of[1]) - 1;
+            for (int i = 0; i < of[0]; i++) {
+                for (int j = 0; j < of[1]; j++) {
+                    String cell = i + ", " + j + " of " + of[0] + " by " + of[1];
+                    CHECKS.due("LOW of " + cell, desk.x.edge(0, i, j, all, false), Math.max(0, inLine[i] + inColumn[j] - 60));
+                    CHECKS.due("HIGH of " + cell, desk.x.edge(0, i, j, all, true), Math.min(inLine[i], inColumn[j]));
+                }
+            }
+        }
     }
 
     private static void guardedRows() {
